@@ -1,0 +1,18 @@
+/** Runs every test of the project; ends with 1 if one fails. */
+public final class AllTests {
+    private AllTests() {
+    }
+
+    public static void main(String[] args) {
+        Check c = new Check();
+        LandPromises.run(c);
+        WayPromises.run(c);
+        OutsidePromises.run(c);
+        CommandPromises.run(c);
+        HourPromises.run(c);
+        YearPromises.run(c);
+        if (!c.close()) {
+            System.exit(1);
+        }
+    }
+}
