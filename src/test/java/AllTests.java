@@ -11,6 +11,8 @@ public final class AllTests {
         CommandPromises.run(c);
         HourPromises.run(c);
         YearPromises.run(c);
+        TellPromises.run(c);
+        RandomRuns.run(c);
         if (!c.close()) {
             System.exit(1);
         }
