@@ -48,7 +48,7 @@ public final class Polderwardens {
     private static final int NOTE = 6;
 
     private final Land land = new Land();
-    private final int[] notes = new int[MOST_CALLS * NOTE];
+    private final int[] notes = new int[(MOST_CALLS + 1) * NOTE];
     private int noted;
 
     /**
@@ -67,7 +67,7 @@ public final class Polderwardens {
         needRange(area, 1, 100);
         needRange(ground, -500, 500);
         needRoom(land.waters.basinCount, MOST_BASINS);
-        return (int) act(ADD_BASIN, area, ground, 0, 0, 0);
+        return (int) land.act(notes, note(ADD_BASIN, area, ground, 0, 0, 0));
     }
 
     public void setLand(int basin, int sinks, int floor, int worth)
@@ -76,20 +76,20 @@ public final class Polderwardens {
         needRange(sinks, 0, 20);
         needRange(floor, 0, 9999);
         needRange(worth, 0, 99);
-        act(SET_LAND, basin, sinks, floor, worth, 0);
+        land.act(notes, note(SET_LAND, basin, sinks, floor, worth, 0));
     }
 
     public long pour(int basin, int litres) throws IndexOutOfBoundsException, IllegalArgumentException {
         needBasin(basin);
         needRange(litres, 0, 1000000);
-        return act(POUR, basin, litres, 0, 0, 0);
+        return land.act(notes, note(POUR, basin, litres, 0, 0, 0));
     }
 
     public boolean road(int basin, int other, boolean is) throws IndexOutOfBoundsException, IllegalArgumentException {
         needBasin(basin);
         needBasin(other);
         needDifferent(basin, other);
-        return act(ROAD, basin, other, is ? 1 : 0, 0, 0) != 0;
+        return land.act(notes, note(ROAD, basin, other, is ? 1 : 0, 0, 0)) != 0;
     }
 
     // ---- gates, pumps, dykes
@@ -100,7 +100,7 @@ public final class Polderwardens {
         needRange(amount, 1, 9999);
         needRange(rank, 0, 3);
         needRoom(land.gateCount, MOST_WAYS);
-        return (int) act(ADD_GATE, first, second, amount, rank, 0);
+        return (int) land.act(notes, note(ADD_GATE, first, second, amount, rank, 0));
     }
 
     public int addPump(int first, int second, int amount, int head, int limit)
@@ -110,7 +110,7 @@ public final class Polderwardens {
         needRange(head, 0, 999);
         needRange(limit, 1, 999);
         needRoom(land.pumpCount, MOST_WAYS);
-        return (int) act(ADD_PUMP, first, second, amount, head, limit);
+        return (int) land.act(notes, note(ADD_PUMP, first, second, amount, head, limit));
     }
 
     public int addDyke(int first, int second, int crest, int strength, int seepage)
@@ -120,7 +120,7 @@ public final class Polderwardens {
         needRange(strength, 1, 999);
         needRange(seepage, 0, 99);
         needRoom(land.dykeCount, MOST_WAYS);
-        return (int) act(ADD_DYKE, first, second, crest, strength, seepage);
+        return (int) land.act(notes, note(ADD_DYKE, first, second, crest, strength, seepage));
     }
 
     // ---- outside, rain
@@ -129,7 +129,7 @@ public final class Polderwardens {
         needRange(mean, -99, 99);
         needRange(range, 0, 400);
         needRange(river, -9999, 99999);
-        act(SET_OUTSIDE, mean, range, river, 0, 0);
+        land.act(notes, note(SET_OUTSIDE, mean, range, river, 0, 0));
     }
 
     public int storm(int begin, int length, int peak) throws IllegalArgumentException, IllegalStateException {
@@ -137,7 +137,7 @@ public final class Polderwardens {
         needRange(length, 1, 99);
         needRange(peak, 1, 500);
         needRoom(land.waters.outside.stormCount, MOST_SPELLS);
-        return (int) act(STORM, begin, length, peak, 0, 0);
+        return (int) land.act(notes, note(STORM, begin, length, peak, 0, 0));
     }
 
     public int rain(int basin, int begin, int length, int litres)
@@ -147,12 +147,12 @@ public final class Polderwardens {
         needRange(length, 1, 99);
         needRange(litres, 1, 9999);
         needRoom(land.waters.rainCount, MOST_SPELLS);
-        return (int) act(RAIN, basin, begin, length, litres, 0);
+        return (int) land.act(notes, note(RAIN, basin, begin, length, litres, 0));
     }
 
     public int setSeed(int seed) throws IllegalArgumentException {
         needRange(seed, 0, 9999);
-        return (int) act(SET_SEED, seed, 0, 0, 0, 0);
+        return (int) land.act(notes, note(SET_SEED, seed, 0, 0, 0, 0));
     }
 
     // ---- commands
@@ -161,7 +161,7 @@ public final class Polderwardens {
             throws IndexOutOfBoundsException, IllegalArgumentException {
         needGate(gate);
         needRange(rank, 0, 3);
-        return (int) act(COMMAND, gate, isOpen ? 1 : 0, rank, 0, 0);
+        return (int) land.act(notes, note(COMMAND, gate, isOpen ? 1 : 0, rank, 0, 0));
     }
 
     public int drive(int pump, boolean isOn, int fuel)
@@ -169,13 +169,13 @@ public final class Polderwardens {
         needPump(pump);
         needRange(fuel, 0, 99);
         needMoney(fuel);
-        return (int) act(DRIVE, pump, isOn ? 1 : 0, fuel, 0, 0);
+        return (int) land.act(notes, note(DRIVE, pump, isOn ? 1 : 0, fuel, 0, 0));
     }
 
     public int mend(int pump) throws IndexOutOfBoundsException, IllegalStateException {
         needPump(pump);
         needMoney(MEND_COST);
-        return (int) act(MEND, pump, 0, 0, 0, 0);
+        return (int) land.act(notes, note(MEND, pump, 0, 0, 0, 0));
     }
 
     public int send(int crew, int dyke, int bags)
@@ -186,13 +186,13 @@ public final class Polderwardens {
         }
         needRange(bags, 0, 99);
         needMoney(bags);
-        return (int) act(SEND, crew, dyke, bags, 0, 0);
+        return (int) land.act(notes, note(SEND, crew, dyke, bags, 0, 0));
     }
 
     public int budget(int yearly, int now) throws IllegalArgumentException {
         needRange(yearly, 0, 9999);
         needRange(now, 0, 9999);
-        return (int) act(BUDGET, yearly, now, 0, 0, 0);
+        return (int) land.act(notes, note(BUDGET, yearly, now, 0, 0, 0));
     }
 
     public int raise(int dyke, int by, int years)
@@ -202,7 +202,7 @@ public final class Polderwardens {
         needRange(years, 1, 9);
         needMoney(by * RAISE_COST);
         needRoom(land.books.countWorks(), MOST_WORKS);
-        return (int) act(RAISE, dyke, by, years, 0, 0);
+        return (int) land.act(notes, note(RAISE, dyke, by, years, 0, 0));
     }
 
     // ---- time
@@ -210,12 +210,12 @@ public final class Polderwardens {
     public int run(int hours) throws IllegalArgumentException, IllegalStateException {
         needRange(hours, 1, 50);
         needState(land.waters.hour + hours <= LAST_HOUR);
-        return (int) act(RUN, hours, 0, 0, 0, 0);
+        return (int) land.act(notes, note(RUN, hours, 0, 0, 0, 0));
     }
 
     public int endYear() throws IllegalStateException {
         needState(land.books.year < MOST_YEARS);
-        return (int) act(END_YEAR, 0, 0, 0, 0, 0);
+        return (int) land.act(notes, note(END_YEAR, 0, 0, 0, 0, 0));
     }
 
     // ---- what there is; nothing from here on changes anything
@@ -314,21 +314,20 @@ public final class Polderwardens {
     }
 
     public long digestAnew() {
-        redoNotes();
+        while (redone < noted) {
+            again.act(notes, redone * NOTE);
+            redone++;
+        }
         return again.sumOfAll();
     }
 
     // ---- the noted calls
 
-    private long act(int kind, int a, int b, int c, int d, int e) {
-        note(kind, a, b, c, d, e);
-        return land.act(kind, a, b, c, d, e);
-    }
-
-    private void note(int kind, int a, int b, int c, int d, int e) {
+    /** Notes a call; tells where. What comes behind the last call goes to a row that is not kept. */
+    private int note(int kind, int a, int b, int c, int d, int e) {
         int at = noted * NOTE;
         if (at < 0 || at + NOTE > notes.length) {
-            return;
+            return -1;
         }
         notes[at] = kind;
         notes[at + 1] = a;
@@ -336,18 +335,10 @@ public final class Polderwardens {
         notes[at + 3] = c;
         notes[at + 4] = d;
         notes[at + 5] = e;
-        noted++;
-    }
-
-    private void redoNotes() {
-        while (redone < noted) {
-            int at = redone * NOTE;
-            if (at < 0 || at + NOTE > notes.length) {
-                return;
-            }
-            again.act(notes[at], notes[at + 1], notes[at + 2], notes[at + 3], notes[at + 4], notes[at + 5]);
-            redone++;
+        if (noted < MOST_CALLS) {
+            noted++;
         }
+        return at;
     }
 
     // ---- what a call needs
@@ -439,7 +430,7 @@ public final class Polderwardens {
 
     // ---- the land
 
-    /** All that is; each call that changes something comes here as a kind and its arguments. */
+    /** All that is; each call that changes something comes here as a note: a kind and its arguments. */
     private static final class Land {
         final Waters waters = new Waters();
         final Books books = new Books();
@@ -474,8 +465,16 @@ public final class Polderwardens {
             return number < 0 || number >= crews.length ? null : crews[number];
         }
 
-        long act(int kind, int a, int b, int c, int d, int e) {
-            switch (kind) {
+        long act(int[] notes, int at) {
+            if (at < 0 || at + NOTE > notes.length) {
+                return 0;
+            }
+            int a = notes[at + 1];
+            int b = notes[at + 2];
+            int c = notes[at + 3];
+            int d = notes[at + 4];
+            int e = notes[at + 5];
+            switch (notes[at]) {
                 case ADD_BASIN: return waters.newBasin(a, b);
                 case SET_LAND: return waters.layOut(a, b, c, d);
                 case POUR: return waters.pourInto(a, b);
@@ -483,8 +482,8 @@ public final class Polderwardens {
                 case ADD_GATE: return newGate(a, b, c, d);
                 case ADD_PUMP: return newPump(new Pump(a, b, c, d, e));
                 case ADD_DYKE: return newDyke(new Dyke(a, b, c, d, e));
-                case SET_OUTSIDE: return waters.outside.lay(a, b, c);
-                case STORM: return waters.outside.tellStorm(a, b, c);
+                case SET_OUTSIDE: return waters.layOutside(a, b, c);
+                case STORM: return waters.tellStorm(a, b, c);
                 case RAIN: return waters.tellRain(a, b, c, d);
                 case SET_SEED: return waters.outside.sow(a);
                 case COMMAND: return order(gateAt(a), b != 0, c);
@@ -559,36 +558,33 @@ public final class Polderwardens {
 
         private int passHours(int hours) {
             for (int i = 0; i < hours; i++) {
-                passHour();
+                waters.fallRain();
+                for (int k = 0; k < gates.length; k++) {
+                    if (gates[k] != null) {
+                        gates[k].pass(waters);
+                    }
+                }
+                for (int k = 0; k < pumps.length; k++) {
+                    if (pumps[k] != null) {
+                        pumps[k].work(waters);
+                    }
+                }
+                for (int k = 0; k < dykes.length; k++) {
+                    if (dykes[k] != null) {
+                        dykes[k].hold(waters);
+                    }
+                }
+                waters.countHarms();
+                roads.lookAt(waters);
+                for (int k = 0; k < crews.length; k++) {
+                    if (crews[k] != null) {
+                        crews[k].toil(dykeAt(crews[k].dyke), roads, waters);
+                    }
+                }
+                books.noteSea(waters.sea);
+                waters.endHour();
             }
             return waters.hour;
-        }
-
-        private void passHour() {
-            waters.fallRain();
-            for (int i = 0; i < gates.length; i++) {
-                if (gates[i] != null) {
-                    gates[i].pass(waters);
-                }
-            }
-            for (int i = 0; i < pumps.length; i++) {
-                if (pumps[i] != null) {
-                    pumps[i].work(waters);
-                }
-            }
-            for (int i = 0; i < dykes.length; i++) {
-                if (dykes[i] != null) {
-                    dykes[i].hold(waters);
-                }
-            }
-            waters.countHarms();
-            for (int i = 0; i < crews.length; i++) {
-                if (crews[i] != null) {
-                    crews[i].toil(dykeAt(crews[i].dyke), roads, waters);
-                }
-            }
-            books.noteSea(waters.heightOf(SEA));
-            waters.hour++;
         }
 
         private int closeYear() {
@@ -649,15 +645,15 @@ public final class Polderwardens {
             long sum = 7;
             sum = sum * 31 + waters.hour;
             sum = sum * 31 + books.money;
-            sum = waters.addTo(sum);
+            sum = waters.sumBasins(sum);
             for (int i = 0; i < dykes.length; i++) {
                 if (dykes[i] != null) {
-                    sum = dykes[i].addTo(sum);
+                    sum = dykes[i].sumDyke(sum);
                 }
             }
             for (int i = 0; i < pumps.length; i++) {
                 if (pumps[i] != null) {
-                    sum = pumps[i].addTo(sum);
+                    sum = pumps[i].sumPump(sum);
                 }
             }
             return sum;
@@ -706,6 +702,8 @@ public final class Polderwardens {
         int rainCount;
         private final long[] ledger = new long[WENT_OUT + 1];
         int hour;
+        /** The level of the sea in this hour. */
+        long sea = outside.seaAt(0);
 
         Basin basinAt(int number) {
             return number < 0 || number >= basins.length ? null : basins[number];
@@ -746,6 +744,23 @@ public final class Polderwardens {
             return rainCount;
         }
 
+        int layOutside(int mean, int range, int river) {
+            outside.lay(mean, range, river);
+            sea = outside.seaAt(hour);
+            return 0;
+        }
+
+        int tellStorm(int begin, int length, int peak) {
+            int told = outside.addStorm(begin, length, peak);
+            sea = outside.seaAt(hour);
+            return told;
+        }
+
+        void endHour() {
+            hour++;
+            sea = outside.seaAt(hour);
+        }
+
         void fallRain() {
             for (int i = 0; i < rains.length; i++) {
                 if (rains[i] != null && rains[i].goesAt(hour)) {
@@ -776,7 +791,7 @@ public final class Polderwardens {
 
         long heightOf(int end) {
             if (end == SEA) {
-                return outside.seaAt(hour);
+                return sea;
             }
             if (end == RIVER) {
                 return outside.river;
@@ -803,10 +818,11 @@ public final class Polderwardens {
 
         /** Lets water go from the higher end to the other one, at most so much; tells how much went. */
         long levelOut(int first, int second, long most) {
-            boolean down = above(first, second) >= 0;
-            int high = down ? first : second;
-            int low = down ? second : first;
-            long litres = Math.min(most, Math.min(levelling(high, low), stockOf(high)));
+            long above = heightOf(first) - heightOf(second);
+            int high = above >= 0 ? first : second;
+            int low = above >= 0 ? second : first;
+            long wanted = Math.min(most, levelling(high, low, Math.abs(above)));
+            long litres = Math.min(wanted, stockOf(high));
             if (litres <= 0) {
                 return 0;
             }
@@ -814,10 +830,10 @@ public final class Polderwardens {
             return litres;
         }
 
-        private long levelling(int high, int low) {
+        /** What would go at most, if the higher end had enough. */
+        private long levelling(int high, int low, long difference) {
             Basin from = basinAt(high);
             Basin to = basinAt(low);
-            long difference = above(high, low);
             if (from == null) {
                 return to == null ? 0 : difference * to.area / 100;
             }
@@ -859,7 +875,7 @@ public final class Polderwardens {
             }
         }
 
-        long addTo(long sum) {
+        long sumBasins(long sum) {
             long all = sum;
             for (int i = 0; i < basins.length; i++) {
                 if (basins[i] != null) {
@@ -881,14 +897,13 @@ public final class Polderwardens {
         private final Spell[] storms = new Spell[MOST_SPELLS];
         int stormCount;
 
-        int lay(int mean, int range, int river) {
+        void lay(int mean, int range, int river) {
             this.mean = mean;
             this.range = range;
             this.river = river;
-            return 0;
         }
 
-        int tellStorm(int begin, int length, int peak) {
+        int addStorm(int begin, int length, int peak) {
             if (stormCount < 0 || stormCount >= storms.length) {
                 return stormCount;
             }
@@ -904,7 +919,7 @@ public final class Polderwardens {
         }
 
         long seaAt(int hour) {
-            return 100L * (mean + tideAt(hour)) + surgeAt(hour);
+            return 100L * (mean + tideAt(hour)) + greatestSurge(hour);
         }
 
         private int tideAt(int hour) {
@@ -913,7 +928,7 @@ public final class Polderwardens {
             return range * risen / 6 - range / 2;
         }
 
-        private long surgeAt(int hour) {
+        private long greatestSurge(int hour) {
             long greatest = 0;
             for (int i = 0; i < storms.length; i++) {
                 if (storms[i] != null) {
@@ -1044,7 +1059,7 @@ public final class Polderwardens {
             wear++;
         }
 
-        long addTo(long sum) {
+        long sumPump(long sum) {
             return (sum * 31 + fuel) * 31 + wear;
         }
     }
@@ -1122,7 +1137,7 @@ public final class Polderwardens {
             }
         }
 
-        long addTo(long sum) {
+        long sumDyke(long sum) {
             return ((sum * 31 + crest) * 31 + damage) * 31 + breach;
         }
     }
@@ -1141,7 +1156,7 @@ public final class Polderwardens {
             }
             int goal = sentTo.workplace(waters);
             if (basin != goal) {
-                basin = roads.nextFrom(basin, goal, waters);
+                basin = roads.nextFrom(basin, goal);
             } else if (bags > 0 && sentTo.isHurt()) {
                 bags--;
                 sentTo.bag();
@@ -1152,6 +1167,7 @@ public final class Polderwardens {
     /** The roads between basins, and the shortest ways by those that are not cut. */
     private static final class Roads {
         private final boolean[] built = new boolean[MOST_BASINS * MOST_BASINS];
+        private final boolean[] dry = new boolean[MOST_BASINS];
         private final int[] far = new int[MOST_BASINS];
 
         private boolean isBuilt(int one, int another) {
@@ -1172,49 +1188,47 @@ public final class Polderwardens {
             }
         }
 
-        private boolean isFree(int one, int another, Waters waters) {
-            return isBuilt(one, another) && isDry(waters.basinAt(one)) && isDry(waters.basinAt(another));
+        /** Sees which roads are cut: all those of a basin that stands too high. */
+        void lookAt(Waters waters) {
+            for (int i = 0; i < dry.length; i++) {
+                Basin basin = waters.basinAt(i);
+                dry[i] = basin != null && basin.aboveFloor() < 100;
+            }
         }
 
-        private boolean isDry(Basin basin) {
-            return basin != null && basin.aboveFloor() < 100;
+        private boolean isFree(int one, int another) {
+            if (one < 0 || one >= dry.length || another < 0 || another >= dry.length) {
+                return false;
+            }
+            return dry[one] && dry[another] && isBuilt(one, another);
         }
 
         /** The next basin on the way to the goal; the same one, if there is no way. */
-        int nextFrom(int from, int goal, Waters waters) {
-            if (from < 0 || from >= far.length || goal < 0 || goal >= far.length) {
+        int nextFrom(int from, int goal) {
+            if (from < 0 || from >= far.length) {
                 return from;
             }
-            measure(goal, waters);
+            measure(goal);
             for (int i = 0; i < far.length; i++) {
-                if (far[i] >= 0 && far[i] == far[from] - 1 && isFree(from, i, waters)) {
+                if (far[i] >= 0 && far[i] == far[from] - 1 && isFree(from, i)) {
                     return i;
                 }
             }
             return from;
         }
 
-        /** Notes of each basin how many roads it is from the goal; -1 if there is no way. */
-        private void measure(int goal, Waters waters) {
+        /** Notes of each basin by how many roads it is from the goal; -1 if there is no way. */
+        private void measure(int goal) {
             for (int i = 0; i < far.length; i++) {
                 far[i] = i == goal ? 0 : -1;
             }
             for (int roads = 0; roads < far.length; roads++) {
                 for (int i = 0; i < far.length; i++) {
-                    if (far[i] == roads) {
-                        reachFrom(i, waters);
+                    for (int next = 0; next < far.length; next++) {
+                        if (far[i] == roads && far[next] < 0 && isFree(i, next)) {
+                            far[next] = roads + 1;
+                        }
                     }
-                }
-            }
-        }
-
-        private void reachFrom(int from, Waters waters) {
-            if (from < 0 || from >= far.length) {
-                return;
-            }
-            for (int i = 0; i < far.length; i++) {
-                if (far[i] < 0 && isFree(from, i, waters)) {
-                    far[i] = far[from] + 1;
                 }
             }
         }

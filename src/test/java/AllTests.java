@@ -13,6 +13,7 @@ public final class AllTests {
         YearPromises.run(c);
         TellPromises.run(c);
         RandomRuns.run(c);
+        LanguageRules.run(c, args.length > 0 ? args[0] : ".");
         if (!c.close()) {
             System.exit(1);
         }

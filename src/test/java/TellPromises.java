@@ -190,6 +190,12 @@ final class TellPromises {
             x.pour(0, i);
         }
         c.due("behind 510 calls, by the 512th", x.digest(), x.digestAnew());
+        // what later calls answer is free, but none may fail in the machine
+        for (int i = 0; i < 200; i++) {
+            x.pour(0, 1);
+            x.digestAnew();
+        }
+        c.due("behind many calls", 509 * 508 / 2 + 200, x.water(0));
     }
 
     private static void askingChangesNothing(Check c) {
