@@ -76,6 +76,29 @@ final class CommandPromises {
         x.setOutside(0, 4, 0);
         x.run(6);
         c.due("by the tide of now", 2, x.command(1, true, 3));
+        byAHundredth(c);
+    }
+
+    private static void byAHundredth(Check c) {
+        Polderwardens x = still();
+        x.addBasin(100, 0);
+        x.pour(0, 100);
+        x.addGate(0, 20, 1, 0);
+        x.addGate(20, 0, 1, 0);
+        x.setOutside(1, 0, 0);
+        c.due("as high", 0, x.command(0, true, 0));
+        c.due("as high, the other way round", 0, x.command(1, true, 0));
+        x.setOutside(0, 0, 0);
+        x.run(1);
+        c.due("two gates, a litre each", 98, x.water(0));
+        x.pour(0, 1);
+        x.setOutside(1, 0, 0);
+        c.due("higher by a hundredth", 2, x.command(0, true, 3));
+        c.due("higher by a hundredth, the other way round", 2, x.command(1, true, 3));
+        x.run(1);
+        c.due("shut by a hundredth", false, x.isOpen(0));
+        c.due("shut by a hundredth, the other way round", false, x.isOpen(1));
+        c.due("nothing came", 99, x.water(0));
     }
 
     private static void lowerWithWorth(Check c) {

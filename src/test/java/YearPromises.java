@@ -242,6 +242,11 @@ final class YearPromises {
             all += of13[i];
         }
         c.due("all together", 13, all);
+        Polderwardens least = new Polderwardens();
+        least.setOutside(0, 1, 0);
+        least.addBasin(1, 0);
+        least.addDyke(0, 20, 999, 999, 0);
+        c.due("an area of 1, a difference of 1", 999999, least.share(999999, 0));
         for (int cost = 0; cost < 30; cost++) {
             all = 0;
             for (int i = 0; i < 8; i++) {
