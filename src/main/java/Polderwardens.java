@@ -1279,8 +1279,11 @@ public final class Polderwardens {
 
         private void goOnWithWorks() {
             for (int i = 0; i < MOST_WORKS; i++) {
+                if (raised[i] == null) {
+                    continue;
+                }
                 yearsLeft[i]--;
-                if (raised[i] != null && yearsLeft[i] <= 0) {
+                if (yearsLeft[i] <= 0) {
                     raised[i].crest += raisedBy[i];
                     raised[i] = null;
                 }
@@ -1315,23 +1318,22 @@ public final class Polderwardens {
             return all;
         }
 
-        /** The one of the last records that has the rank, the greatest one having 1. */
+        /** The greatest one of the last records that at least so many, itself too, come up to. */
         long rankedOf(int last, int rank) {
+            long ranked = Long.MIN_VALUE;
             for (int i = year - last; i < year; i++) {
-                long one = greatestIn(i);
-                int greater = countLast(last, one, 1);
-                if (greater < rank && rank <= greater + countLast(last, one, 0)) {
-                    return one;
+                if (greatestIn(i) > ranked && countLast(last, greatestIn(i)) >= rank) {
+                    ranked = greatestIn(i);
                 }
             }
-            return Long.MIN_VALUE;
+            return ranked;
         }
 
-        /** How many of the last records compare so with a height: 1 greater, 0 the same. */
-        private int countLast(int last, long height, int how) {
+        /** How many of the last records come up to a height. */
+        private int countLast(int last, long height) {
             int count = 0;
             for (int i = year - last; i < year; i++) {
-                if (Long.compare(greatestIn(i), height) == how) {
+                if (greatestIn(i) >= height) {
                     count++;
                 }
             }
