@@ -309,6 +309,13 @@ final class HourPromises {
         x.addDyke(0, 21, 10, 999, 0);
         x.run(1);
         c.due("an empty basin above the crest", 50, x.dyke(0, 1));
+        x = still(101);
+        x.addBasin(100, 0);
+        x.addDyke(0, 21, 1, 999, 0);
+        x.pour(0, 100);
+        x.run(1);
+        c.due("a litre, by a hundredth above the crest", 101, x.water(0));
+        c.due("damage by a litre", 20, x.dyke(0, 1));
     }
 
     private static void damage(Check c) {
