@@ -12,6 +12,13 @@ public final class AllTests {
         HourPromises.run(c);
         YearPromises.run(c);
         TellPromises.run(c);
+        EdgeArguments.run(c);
+        EdgeCounts.run(c);
+        EdgeWaters.run(c);
+        EdgeDykes.run(c);
+        EdgeCrews.run(c);
+        EdgeYears.run(c);
+        EdgeRefusals.run(c);
         RandomRuns.run(c);
         LanguageRules.run(c, args.length > 0 ? args[0] : ".");
         if (!c.close()) {

@@ -119,6 +119,27 @@ final class TellPromises {
         }
         c.due("going round", sum(numbers), x.digest());
         c.due("going round, anew", sum(numbers), x.digestAnew());
+        eightOfEach(c);
+    }
+
+    private static void eightOfEach(Check c) {
+        Polderwardens x = new Polderwardens();
+        long[] numbers = new long[2 + 8 * 8];
+        x.budget(0, 100);
+        numbers[1] = 100 - 28;
+        for (int i = 0; i < 8; i++) {
+            x.addBasin(1, i);
+            x.pour(i, 10 + i);
+            x.addDyke(i, 20, 50 + i, 9, 0);
+            x.addPump(i, 20, 1, 0, 1);
+            x.drive(i, false, i);
+            numbers[2 + 3 * i] = 10 + i;
+            numbers[3 + 3 * i] = 100 * i + 100 * (10 + i);
+            numbers[26 + 3 * i] = 50 + i;
+            numbers[50 + 2 * i] = i;
+        }
+        c.due("eight of each", sum(numbers), x.digest());
+        c.due("eight of each, anew", sum(numbers), x.digestAnew());
     }
 
     /** Each kind of call, with a digest anew behind it. */
