@@ -16,6 +16,7 @@ final class EdgeCounts {
         money(c);
         ends(c);
         roads(c);
+        calls(c);
     }
 
     private static void noBasin(Check c) {
@@ -88,7 +89,7 @@ final class EdgeCounts {
                 "run(50) = 50; endYear() = 1; storm(60, 1, 1) = not now; addBasin(1, 0) = 0; rain(0, 60, 1, 1) = 1");
         Runs.due(c, "Throws `IllegalStateException` if 12 were told (rains)",
                 STILL, "addBasin(1, 0); addBasin(1, 0); rain(0, 0, 1, 1) = 1; 10 x rain(0, 0, 1, 2)",
-                        "rain(1, 0, 1, 5) = 12",
+                "rain(1, 0, 1, 5) = 12",
                 "rain(1, 0, 1, 900) = not now; rain(0, 0, 0, 1) = wrong; rain(2, 0, 0, 1) = none; run(1) = 1",
                 "water(0) = 21; water(1) = 5; ledger(1) = 26; run(50) = 51; rain(0, 60, 1, 1) = not now",
                 "storm(60, 1, 1) = 1");
@@ -147,7 +148,7 @@ final class EdgeCounts {
         Runs.due(c, "`begin`: 0 to 9999: the hour",
                 // the hour 9998 is the last one that passes: no rain comes that begins behind it
                 STILL, "addBasin(1, 0); rain(0, 9998, 99, 3) = 1; rain(0, 9999, 1, 5) = 2",
-                        "storm(9999, 99, 500) = 1; storm(9998, 1, 7) = 2",
+                "storm(9999, 99, 500) = 1; storm(9998, 1, 7) = 2",
                 "199 x run(50); run(48) = 9998; water(0) = 0; level(20) = 700; run(1) = 9999; water(0) = 3",
                 "level(20) = 1000; sea(9999) = 1000",
                 // 48 hours on: 50000 times 49 and 2, divided by 100;
@@ -166,7 +167,7 @@ final class EdgeCounts {
                 "money() = 0");
         Runs.due(c, "Throws `IllegalStateException` if the money is not enough (mend)",
                 STILL, "addBasin(1, 9); pour(0, 9); addPump(0, 21, 1, 0, 1); mend(0) = not now; budget(0, 20)",
-                        "drive(0, true, 1) = 1; run(1)",
+                "drive(0, true, 1) = 1; run(1)",
                 "pump(0, 2) = 1; money() = 19; mend(0) = not now; pump(0, 2) = 1; money() = 19; budget(0, 1) = 20",
                 "mend(0) = 1; money() = 0; pump(0, 2) = 0; mend(0) = not now; mend(1) = none; budget(0, 21)",
                 "mend(0) = 0; money() = 1");
@@ -206,6 +207,14 @@ final class EdgeCounts {
                 "addDyke(0, 0, 0, 1, 0) = wrong; addDyke(20, 20, 0, 1, 0) = wrong; addDyke(21, 20, 0, 1, 0) = wrong",
                 "addGate(2, 2, 1, 0) = none; addPump(20, 22, 1, 0, 1) = none; addDyke(19, 21, 0, 1, 0) = none",
                 "addGate(0, 1, 1, 0) = 0; addPump(1, 0, 1, 0, 1) = 0; addDyke(0, 1, 0, 1, 0) = 0");
+    }
+
+    private static void calls(Check c) {
+        Runs.due(c, "An object is used for at most 512 calls after it has been made",
+                // 7, 0, 0, 510, 51000, 0 by 31; the last call is the 512th
+                "addBasin(1, 0); 510 x pour(0, 1); digestAnew() = 202475167");
+        Runs.due(c, "An object is used for at most 512 calls after it has been made",
+                "addBasin(1, 0); 509 x pour(0, 1); pour(0, 0) = 509; pour(0, 1) = 510");
     }
 
     private static void roads(Check c) {

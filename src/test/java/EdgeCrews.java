@@ -130,7 +130,7 @@ final class EdgeCrews {
     private static void arrival(Check c) {
         Runs.due(c, "If it is there as an hour comes to crews, it works in that hour",
                 TWO, "setOutside(0, 0, 2000); send(0, 0, 0); run(1); crew(0, 0) = 1; crew(0, 1) = 10",
-                        "dyke(0, 1) = 20; run(1); crew(0, 1) = 9; dyke(0, 1) = 25");
+                "dyke(0, 1) = 20; run(1); crew(0, 1) = 9; dyke(0, 1) = 25");
         Runs.due(c, "when there is no way, it stays", TWO, "road(0, 1, false) = true; send(0, 0, 0); run(3)",
                 "crew(0, 0) = 0; crew(0, 2) = 0; crew(0, 1) = 10",
                 "road(1, 0, true) = false; run(1); crew(0, 0) = 1; road(0, 1, false); addDyke(0, 21, 999, 999, 0)",

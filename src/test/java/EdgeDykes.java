@@ -180,7 +180,7 @@ final class EdgeDykes {
         Runs.due(c, "broken ones as told, others seep, then flow over, then are damaged",
                 // behind the first hour's seepage and flow over there is the breach alone
                 DEEP, "addDyke(0, 21, 1, 40, 99); run(1); water(0) = 698; dyke(0, 1) = 40; dyke(0, 2) = 1; run(1)",
-                        "water(0) = 748; dyke(0, 1) = 40",
+                "water(0) = 748; dyke(0, 1) = 40",
                 "run(1); water(0) = 848; dyke(0, 1) = 40; endYear(); dyke(0, 1) = 40; dyke(0, 2) = 3");
         Runs.due(c, "4. dykes by rising numbers",
                 // what dyke 0 lets in is there for dyke 1

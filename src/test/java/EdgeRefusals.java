@@ -44,6 +44,7 @@ final class EdgeRefusals {
 
     static void run(Check c) {
         crowded(c);
+        asked(c);
         inTheLastHour(c);
         worksAndMoney(c);
         empty(c);
@@ -62,6 +63,21 @@ final class EdgeRefusals {
             Runs.on(c, x, LIFE);
             c.holds("behind some hours and years", behind.equals(Picture.of(x)));
         }
+    }
+
+    /** One of two lands alike is asked for all that there is, and more than once; both go on in the same way. */
+    private static void asked(Check c) {
+        c.about("\"nothing from here on changes anything.\"");
+        Polderwardens twin = Lands.crowded();
+        Polderwardens x = Lands.crowded();
+        Picture.of(x);
+        Runs.on(c, x, "forecast(48); sea(9999); share(999999, 7); nextHeight(1, 1) = not now",
+                "digestAnew(); digest(); digestAnew()");
+        Runs.on(c, twin, LIFE);
+        Runs.on(c, x, LIFE);
+        c.holds("it goes on as one that was not asked", Picture.of(twin).equals(Picture.of(x)));
+        c.due("digestAnew()", twin.digestAnew(), x.digestAnew());
+        c.due("digest()", x.digest(), x.digestAnew());
     }
 
     private static void inTheLastHour(Check c) {

@@ -17,6 +17,7 @@ final class EdgeWaters {
         gatesToTheSea(c);
         pumps(c);
         pumpHeads(c);
+        lastLitre(c);
         rains(c);
         forecasts(c);
     }
@@ -42,12 +43,12 @@ final class EdgeWaters {
                 "level(21) = 99999; level(20) = 0; run(12); water(0) = 239976; level(21) = 99999");
         Runs.due(c, "that does not sink and has no worth; its floor is 100 above the ground",
                 POND, "addBasin(100, 0); addDyke(1, 20, 999, 999, 0); road(0, 1, true); pour(1, 200)",
-                        "send(0, 0, 0); run(1)",
+                "send(0, 0, 0); run(1)",
                 "crew(0, 0) = 0; harm(1) = 0; endYear(); level(1) = 200; addGate(1, 21, 1, 0); setOutside(0, 0, 300)",
                 "command(0, true, 0) = 0");
         Runs.due(c, "its floor is 100 above the ground",
                 POND, "addBasin(100, 0); addDyke(1, 20, 999, 999, 0); road(0, 1, true); pour(1, 199)",
-                        "send(0, 0, 0); run(1); crew(0, 0) = 1");
+                "send(0, 0, 0); run(1); crew(0, 0) = 1");
     }
 
     private static void tides(Check c) {
@@ -72,14 +73,14 @@ final class EdgeWaters {
     private static void surges(Check c) {
         Runs.due(c, "the surge is the greatest one of all storms that go then",
                 STILL, "sea(10) = 0; storm(10, 3, 1) = 1; sea(9) = 0; sea(10) = 50; sea(11) = 100; sea(12) = 50",
-                        "sea(13) = 0",
+                "sea(13) = 0",
                 "storm(10, 3, 1) = 2; sea(11) = 100; storm(9, 1, 3) = 3; sea(9) = 300; sea(10) = 50",
                 "storm(13, 1, 4) = 4; sea(12) = 50",
                 "sea(13) = 400; storm(11, 1, 1) = 5; sea(11) = 100; storm(12, 1, 2) = 6; sea(12) = 200");
         Runs.due(c, "times the lesser of these hours and 1, together, and of the hours that are left, this one"
                 + " included, times 2, divided by its length and 1, together, rounded down",
                 STILL, "storm(0, 99, 500); sea(0) = 1000; sea(1) = 2000; sea(48) = 49000; sea(49) = 50000",
-                        "sea(50) = 49000; sea(98) = 1000; sea(99) = 0",
+                "sea(50) = 49000; sea(98) = 1000; sea(99) = 0",
                 "storm(200, 1, 500); sea(199) = 0; sea(200) = 50000; sea(201) = 0; storm(300, 2, 1)",
                 "sea(300) = 66; sea(301) = 66; sea(302) = 0",
                 // 100 times 1, 2, 2, 1, times 2, divided by 5
@@ -92,24 +93,24 @@ final class EdgeWaters {
         Runs.due(c, "water goes from the end with the higher level to the other one",
                 // the same level: nothing goes, by a gate, a dyke, or over one
                 STILL, "addBasin(10, 1); addBasin(20, 0); pour(1, 20); addGate(0, 1, 9, 0)",
-                        "command(0, true, 0) = 0; addDyke(0, 1, -5, 1, 99); run(3)",
+                "command(0, true, 0) = 0; addDyke(0, 1, -5, 1, 99); run(3)",
                 "water(0) = 0; water(1) = 20; dyke(0, 1) = 0; dyke(0, 2) = 0; pour(0, 30); run(1); isOpen(0) = true",
                 // 9 by the gate, then 11 by seepage, to 200 each
                 "water(0) = 10; water(1) = 40; dyke(0, 1) = 0");
         Runs.due(c, "of two basins, the difference of the levels, times both areas, divided by both together, and"
                 + " by 100, rounded down",
                 POND, "addBasin(100, 0); addGate(0, 1, 9999, 0); command(0, true, 0); pour(0, 1); run(1)",
-                        "water(1) = 0; pour(0, 1); run(1)",
+                "water(1) = 0; pour(0, 1); run(1)",
                 "water(0) = 1; water(1) = 1; pour(1, 3); run(1); water(0) = 2; water(1) = 3; run(1); water(0) = 2");
         Runs.due(c, "of two basins, the difference of the levels, times both areas, divided by both together, and"
                 + " by 100, rounded down",
                 // 99 and 1 of area: 200 of difference, times 99, divided by 100, and by 100
                 STILL, "addBasin(99, 0); addBasin(1, 0); addGate(1, 0, 9999, 0); command(0, true, 0); pour(1, 1)",
-                        "run(1); water(0) = 0",
+                "run(1); water(0) = 0",
                 "pour(1, 1); run(1); water(0) = 1; water(1) = 1; run(1); water(0) = 1");
         Runs.due(c, "never more than the higher one has, if that is a basin",
                 STILL, "addBasin(50, 9); addBasin(50, 0); addGate(0, 1, 9999, 0); command(0, true, 0); run(1)",
-                        "water(1) = 0",
+                "water(1) = 0",
                 "pour(0, 1); run(1); water(0) = 0; water(1) = 1; pour(0, 225); run(1); water(0) = 0; water(1) = 226",
                 // 900 - 452 + 450 of difference, times 50, divided by 2, and by 100
                 "pour(0, 225); run(1); water(0) = 1; water(1) = 450");
@@ -125,13 +126,13 @@ final class EdgeWaters {
                 "ledger(2) = 2; ledger(3) = 1");
         Runs.due(c, "of a basin and outside the difference times the area of the basin, divided by 100, rounded down",
                 POND, "addGate(21, 0, 9999, 0); command(0, true, 0); setOutside(0, 0, 1); run(1); water(0) = 1",
-                        "run(1); water(0) = 1",
+                "run(1); water(0) = 1",
                 "setOutside(0, 0, 9000); run(1); water(0) = 9000; setOutside(0, 0, 0); run(1); water(0) = 0",
                 "ledger(2) = 9000; ledger(3) = 9000");
         Runs.due(c, "of a basin and outside the difference times the area of the basin, divided by 100, rounded down",
                 // a level of 33 gives nothing, one of 66 a litre
                 STILL, "addBasin(3, 0); addGate(0, 20, 9, 0); command(0, true, 0); pour(0, 1); run(1)",
-                        "water(0) = 1; pour(0, 1); run(1); water(0) = 1",
+                "water(0) = 1; pour(0, 1); run(1); water(0) = 1",
                 "isOpen(0) = true; ledger(3) = 1");
         Runs.due(c, "never more than the higher one has, if that is a basin",
                 "addBasin(100, 50); setOutside(0, 0, -9999); addGate(0, 21, 9999, 0); command(0, true, 0); run(1)",
@@ -157,7 +158,7 @@ final class EdgeWaters {
                 "run(1); water(0) = 21; run(1); water(0) = 21");
         Runs.due(c, "A gate needs a rank, 0 to 3, 0 at first.",
                 STILL, "addBasin(1, 0); addGate(0, 21, 1, 0); addGate(0, 21, 1, 1); addGate(0, 21, 1, 2)",
-                        "addGate(0, 21, 1, 3)",
+                "addGate(0, 21, 1, 3)",
                 "command(0, true, 0) = 0; command(1, true, 0) = 1; command(1, true, 1) = 0",
                 "command(2, true, 1) = 1; command(2, true, 2) = 0",
                 "command(3, true, 2) = 1; isOpen(3) = false; command(3, true, 3) = 0; command(3, false, 2) = 1",
@@ -197,26 +198,26 @@ final class EdgeWaters {
         String pond = STILL + "addBasin(100, 10); budget(0, 99); ";
         Runs.due(c, "A pump takes an amount in an hour from its first end to its second one, less if a basin has less",
                 pond, "addPump(0, 21, 5, 0, 99); drive(0, true, 9); pour(0, 4); run(1); water(0) = 0",
-                        "ledger(3) = 4; pump(0, 1) = 8; pump(0, 2) = 1",
+                "ledger(3) = 4; pump(0, 1) = 8; pump(0, 2) = 1",
                 "pour(0, 5); run(1); water(0) = 0; ledger(3) = 9; pour(0, 6); run(1); water(0) = 1",
                 "ledger(3) = 14; pump(0, 1) = 6; pump(0, 2) = 3");
         Runs.due(c, "there is some water",
                 pond, "addPump(0, 21, 5, 0, 99); drive(0, true, 9); run(1); pump(0, 1) = 9; pump(0, 2) = 0",
-                        "pour(0, 1); run(1); water(0) = 0",
+                "pour(0, 1); run(1); water(0) = 0",
                 "pump(0, 1) = 8; pump(0, 2) = 1; run(5); pump(0, 1) = 8; pump(0, 2) = 1");
         Runs.due(c, "if it is on",
                 pond, "addPump(0, 21, 5, 0, 99); pump(0, 0) = 0; drive(0, false, 9) = 9; pour(0, 50); run(1)",
-                        "water(0) = 50; pump(0, 1) = 9",
+                "water(0) = 50; pump(0, 1) = 9",
                 "drive(0, true, 0) = 9; pump(0, 0) = 1; run(1); water(0) = 45; drive(0, false, 0) = 8; run(1)",
                 "water(0) = 45; pump(0, 2) = 1");
         Runs.due(c, "has fuel",
                 pond, "addPump(0, 21, 5, 0, 99); drive(0, true, 0) = 0; pour(0, 50); run(1); water(0) = 50",
-                        "drive(0, true, 1) = 1; run(1); water(0) = 45",
+                "drive(0, true, 1) = 1; run(1); water(0) = 45",
                 "pump(0, 1) = 0; run(2); water(0) = 45; pump(0, 1) = 0; pump(0, 2) = 1; pump(0, 0) = 1",
                 "drive(0, true, 2) = 2; run(9); water(0) = 35");
         Runs.due(c, "it is worn out when its wear is its limit",
                 pond, "addPump(0, 21, 5, 0, 1); addPump(0, 21, 3, 0, 2); drive(0, true, 9); drive(1, true, 9)",
-                        "pour(0, 50); run(1); water(0) = 42",
+                "pour(0, 50); run(1); water(0) = 42",
                 "pump(0, 2) = 1; pump(1, 2) = 1; run(1); water(0) = 39; pump(0, 2) = 1; pump(0, 1) = 8",
                 "pump(1, 2) = 2; pump(1, 1) = 7",
                 "run(3); water(0) = 39; pump(0, 0) = 1; mend(1) = 2; pump(1, 2) = 0; run(1); water(0) = 36",
@@ -248,17 +249,32 @@ final class EdgeWaters {
                 "setOutside(0, 0, 0); run(1); ledger(3) = 2; water(0) = 10; water(1) = 10");
     }
 
+    private static void lastLitre(Check c) {
+        c.about("\"Water is kept to the last litre.\"");
+        Polderwardens x = Lands.crowded();
+        for (int day = 0; day < 40; day++) {
+            x.pour(day % 8, 1 + 37 * day);
+            x.command(day % 8, true, 3);
+            x.run(1 + day % 5);
+            long water = 0;
+            for (int i = 0; i < 8; i++) {
+                water += x.water(i);
+            }
+            c.due("water on day " + day, x.ledger(0) + x.ledger(1) + x.ledger(2) - x.ledger(3), water);
+        }
+    }
+
     private static void rains(Check c) {
         Runs.due(c, "each rain that goes brings its amount to its basin",
                 POND, "addBasin(1, 0); rain(0, 2, 1, 7) = 1; rain(1, 1, 2, 9999) = 2; run(1); ledger(1) = 0",
-                        "run(1); water(0) = 0; water(1) = 9999",
+                "run(1); water(0) = 0; water(1) = 9999",
                 "run(1); water(0) = 7; water(1) = 19998; run(1); water(0) = 7; water(1) = 19998",
                 "rain(0, 0, 99, 1) = 3; run(50); run(45); water(0) = 102",
                 "run(1); water(0) = 102; rain(0, 0, 100, 1) = wrong; rain(0, 0, 0, 1) = wrong; ledger(1) = 20100");
         Runs.due(c, "each rain that goes brings its amount to its basin",
                 // two rains on one basin, and one told in its last hour
                 POND, "rain(0, 0, 1, 1); rain(0, 0, 1, 9999); run(1); water(0) = 10000; rain(0, 0, 2, 5) = 3",
-                        "run(1); water(0) = 10005; run(1)",
+                "run(1); water(0) = 10005; run(1)",
                 "water(0) = 10005; rain(0, 0, 3, 5) = 4; run(1); water(0) = 10005; rain(0, 0, 1, 0) = wrong",
                 "rain(0, 0, 1, 10000) = wrong");
     }
@@ -268,13 +284,13 @@ final class EdgeWaters {
         Runs.due(c, "x is the remainder by 65537 of 75 times the hour of now, 1009 times the hours ahead and the"
                 + " seed, together",
                 STILL, "17 x run(50); run(10) = 860; setSeed(28) = 1; forecast(1) = -10; setSeed(27) = 28",
-                        "forecast(1) = 0; setSeed(29) = 27; forecast(1) = 0",
+                "forecast(1) = 0; setSeed(29) = 27; forecast(1) = 0",
                 "setSeed(30) = 29; forecast(1) = 10; setSeed(31) = 30; forecast(1) = -10");
         // 1009 and 1, 2, 3: by 3 they rest 2, 0, 1; and 0 and 9999, the edges of seeds
         Runs.due(c, "the error is the remainder of x by 2 times the hours ahead and 1, together, less these hours,"
                 + " all this times 10",
                 STILL, "forecast(1) = 10; setSeed(2) = 1; forecast(1) = -10; setSeed(3) = 2; forecast(1) = 0",
-                        "setSeed(0) = 3; forecast(1) = 0",
+                "setSeed(0) = 3; forecast(1) = 0",
                 "setSeed(9999) = 0; forecast(1) = 0; setSeed(10000) = wrong; setSeed(-1) = wrong",
                 "forecast(0) = wrong; forecast(49) = wrong",
                 // 48432 by 97 rests 29
@@ -282,7 +298,7 @@ final class EdgeWaters {
                 "forecast(48) = -480");
         Runs.due(c, "Forecasts: the level of the sea some hours ahead, by storms that are told by now",
                 STILL, "setSeed(0) = 1; forecast(1) = 0; storm(1, 1, 5); forecast(1) = 500; forecast(2) = 10",
-                        "run(1); level(20) = 500",
+                "run(1); level(20) = 500",
                 // 75 and 1009 by 3 rest 1
                 "forecast(1) = 0; storm(2, 1, 3); forecast(1) = 300");
     }

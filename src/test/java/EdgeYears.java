@@ -59,8 +59,8 @@ final class EdgeYears {
         for (int mean : means) {
             for (int i = 0; i < storm.length; i++) {
                 Runs.due(c, sentence, "setOutside(" + mean + ", 0, 0)", storm[i], "run(1); endYear()",
-                        "record(0) = " + (100 * mean + surge[i]),
-                        "nextHeight(1, 1) = " + (mean + up[i] + 50));
+                "record(0) = " + (100 * mean + surge[i]),
+                "nextHeight(1, 1) = " + (mean + up[i] + 50));
             }
         }
         // 50000 and 9900, with 20000 of tide: 799 and 50
@@ -92,7 +92,7 @@ final class EdgeYears {
                 "nextHeight(4, 3) = 53; nextHeight(4, 4) = not now");
         Runs.due(c, "`last`: 1 to 20: of how many records",
                 STILL, "run(1); 20 x endYear(); nextHeight(19, 1) = not now; nextHeight(20, 1) = 50",
-                        "nextHeight(20, 2) = not now; nextHeight(21, 1) = wrong");
+                "nextHeight(20, 2) = not now; nextHeight(21, 1) = wrong");
     }
 
     private static void keptDry(Check c) {
