@@ -20,7 +20,9 @@ public final class AllTests {
         EdgeYears.run(c);
         EdgeRefusals.run(c);
         RandomRuns.run(c);
-        LanguageRules.run(c, args.length > 0 ? args[0] : ".");
+        String root = args.length > 0 ? args[0] : ".";
+        LanguageRules.run(c, root);
+        ReadmeHolds.run(c, root);
         if (!c.close()) {
             System.exit(1);
         }

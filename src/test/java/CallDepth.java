@@ -5,10 +5,16 @@ import java.util.Set;
 import java.util.regex.Matcher;
 import java.util.regex.Pattern;
 
-/** Rule 11: how long methods are, and how deep their calls go, as their names tell; each name stands once. */
+/**
+ * Rule 11: how long methods are, and how deep their calls go, as their names tell; each name stands once.
+ * Rule 12: objects are made where the document adds something, so that a run makes few.
+ */
 final class CallDepth {
     private static final Pattern HEAD =
             Pattern.compile("^( {4}| {8})(?:(?:public|private) )?(?:[\\w\\[\\]]+ )?(\\w+)\\(.*[^;]$");
+
+    /** The makers, each for one thing that is added, but for the land's own crews. */
+    private static final Set<String> MAKERS = Set.of("Land", "act", "newBasin", "newGate", "tellRain", "addStorm");
 
     private final Check c;
     private final Map<String, String> bodies = new HashMap<>();
@@ -36,10 +42,12 @@ final class CallDepth {
     private void add(String name, String body) {
         c.holds(name + " is longer than sixty lines", body.split("\n").length <= 60);
         c.holds(name + " stands twice", bodies.put(name, body) == null);
+        boolean makes = body.replace("throw new ", "").contains("new ");
+        c.holds(name + " makes an object", !makes || MAKERS.contains(name));
     }
 
     static void run(Check c, String source) {
-        c.about("rule 11, methods");
+        c.about("rules 11 and 12, methods");
         CallDepth all = new CallDepth(c, source);
         c.holds("methods are seen", all.bodies.size() > 100);
         for (String name : all.bodies.keySet()) {

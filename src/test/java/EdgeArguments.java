@@ -14,7 +14,7 @@ final class EdgeArguments {
      * "@" is an end; "?" is true or false; others are the least and the greatest.
      * "!" tells that the call is refused when all is full, "!2" if its argument 2 costs something.
      */
-    private static final String[] CALLS = {
+    static final String[] CALLS = {
         "addBasin 1..100 -500..500 !",
         "setLand #4,8 0..20 0..9999 0..99",
         "pour #4,8 0..1000000",

@@ -69,6 +69,13 @@ final class EdgeCrews {
                 "dyke(0, 1) = 75; run(1); dyke(0, 1) = 95");
         Runs.due(c, sentence, DYKE, "setOutside(0, 0, 2000); run(1); dyke(0, 1) = 20; crew(0, 1) = 10",
                 "send(0, 0, 0); send(0, -1, 0); run(1); dyke(0, 1) = 40; crew(0, 1) = 10");
+        // one without sandbags goes all the same, and works when it has some
+        Runs.due(c, "Sent to a dyke, a crew goes there", DYKE, "addBasin(1, 0); addDyke(1, 21, 999, 999, 0)",
+                "road(0, 1, true); setOutside(0, 0, 2000); send(0, 0, 0); run(10); crew(0, 1) = 0",
+                "dyke(1, 1) = 200; send(0, 1, 0) = 0; run(1); crew(0, 0) = 1; run(1); crew(0, 1) = 0",
+                "dyke(1, 1) = 240; budget(0, 1); send(0, 1, 1) = 1; run(1); crew(0, 1) = 0; dyke(1, 1) = 245");
+        Runs.due(c, "`bags`: 0 to 99: how many more, 1 of the money each", "budget(0, 9999); 10 x send(0, -1, 99)",
+                "crew(0, 1) = 1000; send(0, -1, 99) = 1099; money() = 8910; crew(1, 1) = 10");
     }
 
     private static void damage(Check c) {

@@ -215,6 +215,9 @@ final class EdgeWaters {
                 "drive(0, true, 1) = 1; run(1); water(0) = 45",
                 "pump(0, 1) = 0; run(2); water(0) = 45; pump(0, 1) = 0; pump(0, 2) = 1; pump(0, 0) = 1",
                 "drive(0, true, 2) = 2; run(9); water(0) = 35");
+        Runs.due(c, "`fuel`: 0 to 99: how much more, 1 of the money each",
+                "budget(0, 9999); addBasin(1, 0); addPump(0, 21, 5, 0, 99); 10 x drive(0, true, 99)",
+                "pump(0, 1) = 990; drive(0, true, 99) = 1089; money() = 8910");
         Runs.due(c, "it is worn out when its wear is its limit",
                 pond, "addPump(0, 21, 5, 0, 1); addPump(0, 21, 3, 0, 2); drive(0, true, 9); drive(1, true, 9)",
                 "pour(0, 50); run(1); water(0) = 42",

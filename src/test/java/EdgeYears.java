@@ -7,6 +7,7 @@ final class EdgeYears {
 
     static void run(Check c) {
         sinking(c);
+        whatGoesOn(c);
         records(c);
         heightsRoundedUp(c);
         ranks(c);
@@ -32,6 +33,20 @@ final class EdgeYears {
                 // a litre came by the pump: 1900 of difference
                 "pump(0, 2) = 1; dyke(0, 1) = 19; dyke(0, 2) = 1; endYear(); pump(0, 2) = 1; pump(0, 1) = 4",
                 "dyke(0, 1) = 19; dyke(0, 2) = 1");
+    }
+
+    /** The end of a year leaves alone what the document does not name. */
+    private static void whatGoesOn(Check c) {
+        Runs.due(c, "Ends the year.", STILL, "addBasin(100, 0); addBasin(100, 0); road(0, 1, true); budget(0, 99)",
+                "addDyke(1, 20, 999, 999, 0); addGate(0, 21, 1, 0); addPump(0, 21, 1, 9, 9); setLand(0, 0, 0, 1)",
+                "command(0, true, 0); drive(0, true, 5); send(1, 0, 3); pour(0, 50); rain(0, 0, 9, 2); storm(0, 9, 1)",
+                // 2 by rain, 1 by the gate, 1 by the pump
+                "run(1); water(0) = 50; harm(0) = 2; endYear() = 1; hour() = 1; level(20) = 40; water(0) = 50",
+                "isOpen(0) = true; pump(0, 0) = 1; pump(0, 1) = 4; pump(0, 2) = 1; harm(0) = 2; money() = 91",
+                "crew(1, 0) = 1; crew(1, 1) = 13; crew(1, 2) = 0; ledger(0) = 50; ledger(1) = 2; ledger(3) = 2",
+                "run(1) = 2; water(0) = 50; harm(0) = 4; ledger(1) = 4; ledger(3) = 4; pump(0, 1) = 3; level(20) = 60",
+                "road(0, 1, false) = true; storm(0, 1, 1) = 2; rain(0, 99, 1, 1) = 2; setSeed(7) = 1; endYear() = 2",
+                "setSeed(8) = 7; storm(0, 1, 1) = 3; rain(0, 99, 1, 1) = 3");
     }
 
     private static void records(Check c) {

@@ -108,10 +108,11 @@ final class LanguageRules {
     }
 
     private static void text(Check c, String source) {
-        c.about("rules 3, 4, 6, 10, 11");
+        c.about("rules 3, 4, 6, 9 to 13");
         String bare = source.replaceAll("(?s)/\\*.*?\\*/", "").replaceAll("//[^\\n]*", "");
         String[] never = {"->", "::", "try", "catch", "finally", "import", "package", "synchronized", "assert",
-            "native", "static {", "System", "Object", "float", "Exact", "toString", "hashCode", "equals"};
+            "native", "static {", "System", "Object", "float", "double", "Exact", "toString", "hashCode", "equals",
+            "random", "Thread", "Runtime", "Process", "while (true)", "for (;;)"};
         for (String word : never) {
             c.holds("the text has " + word, !bare.contains(word));
         }
