@@ -60,6 +60,10 @@ final class EdgeYears {
                 "record(0) = -9900; endYear(); record(1) = no hour",
                 "run(1); setOutside(-99, 0, 0); run(1); endYear(); record(2) = 9900; run(1); endYear()",
                 "record(3) = -9900; record(4) = none; record(-1) = none");
+        Runs.due(c, "The greatest level of the sea in the year is noted",
+                // a storm that is told too late is in sea, but was not there to be noted
+                "run(3) = 3; storm(0, 1, 500) = 1; sea(0) = 45000; sea(2) = -1700; endYear(); record(0) = -1700",
+                "run(10) = 13; storm(12, 1, 500); setOutside(0, 0, 0); sea(12) = 50000; endYear(); record(1) = 5000");
         Runs.due(c, "Long.MIN_VALUE if no hour passed in it", "endYear(); record(0) = no hour; record(1) = none",
                 "run(1); record(0) = no hour; endYear(); record(1) = -5000");
     }
@@ -238,6 +242,9 @@ final class EdgeYears {
                 "command(0, true, 2) = 3; command(1, true, 2) = 3; setLand(0, 0, 0, 0); command(0, true, 0) = 0",
                 "command(1, true, 0) = 0");
         Runs.due(c, sentence, two, "pour(1, 1); command(0, true, 0) = 0; command(1, true, 0) = 0");
+        // a worth is enough, though the basin stands far below its floor, and a litre would come
+        Runs.due(c, sentence, two, "setLand(1, 0, 9999, 1); pour(0, 1); command(0, true, 2) = 3; setLand(1, 0, 9999, 0)",
+                "command(0, true, 2) = 0");
         Runs.due(c, sentence, two, "setLand(1, 0, 0, 0); pour(0, 1); command(0, true, 0) = 0; command(1, true, 0) = 0");
         String river = STILL + "addBasin(100, 0); setLand(0, 0, 0, 1); addGate(0, 21, 1, 0); addGate(21, 0, 1, 2); ";
         Runs.due(c, sentence, river, "command(0, true, 0) = 0; command(1, true, 2) = 0; setOutside(0, 0, 1)",
