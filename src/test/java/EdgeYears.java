@@ -243,8 +243,8 @@ final class EdgeYears {
                 "command(1, true, 0) = 0");
         Runs.due(c, sentence, two, "pour(1, 1); command(0, true, 0) = 0; command(1, true, 0) = 0");
         // a worth is enough, though the basin stands far below its floor, and a litre would come
-        Runs.due(c, sentence, two, "setLand(1, 0, 9999, 1); pour(0, 1); command(0, true, 2) = 3; setLand(1, 0, 9999, 0)",
-                "command(0, true, 2) = 0");
+        Runs.due(c, sentence, two, "setLand(1, 0, 9999, 1); pour(0, 1); command(0, true, 2) = 3",
+                "setLand(1, 0, 9999, 0); command(0, true, 2) = 0");
         Runs.due(c, sentence, two, "setLand(1, 0, 0, 0); pour(0, 1); command(0, true, 0) = 0; command(1, true, 0) = 0");
         String river = STILL + "addBasin(100, 0); setLand(0, 0, 0, 1); addGate(0, 21, 1, 0); addGate(21, 0, 1, 2); ";
         Runs.due(c, sentence, river, "command(0, true, 0) = 0; command(1, true, 2) = 0; setOutside(0, 0, 1)",
